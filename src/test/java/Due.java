@@ -1,0 +1,51 @@
+/** Counts and prints the calls whose answer is not the one that is due. */
+final class Due {
+    private int wrong = 0;
+    private int calls = 0;
+
+    void is(String call, long got, long want) {
+        calls++;
+        if (got != want) {
+            wrong++;
+            System.out.println(call + " answered " + got + ", due is " + want);
+        }
+    }
+
+    void isTrue(String what, boolean holds) {
+        is(what, holds ? 1 : 0, 1);
+    }
+
+    /** Ends the test: with exit code 1, if an answer was wrong. */
+    void end() {
+        System.out.println(wrong == 0 ? calls + " answers are as due" : wrong + " answers are not as due");
+        if (wrong != 0) {
+            System.exit(1);
+        }
+    }
+
+    /** Types a text and reads it as a valley. */
+    static int valley(NineNoons x, String text) {
+        for (char letter : text.toCharArray()) {
+            x.type(letter);
+        }
+        return x.valley();
+    }
+
+    /** A new object with the valley of a text. */
+    static NineNoons of(String text) {
+        NineNoons x = new NineNoons();
+        int answer = valley(x, text);
+        if (answer < 1) {
+            throw new IllegalArgumentException(text + ": " + answer);
+        }
+        return x;
+    }
+
+    static String minutes(NineNoons x) {
+        StringBuilder told = new StringBuilder();
+        for (int village = 0; village < x.count(0); village++) {
+            told.append(village == 0 ? "" : " ").append(x.of(village, 1));
+        }
+        return told.toString();
+    }
+}
