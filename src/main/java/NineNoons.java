@@ -14,6 +14,8 @@ public final class NineNoons {
     private static final int LAST_DAY = 9999;
     private static final int MOST_DAYS = 40;
     private static final int MOST_FORETOLD = 60;
+    /** Stands for "never" where days to come are compared: later than any that is foretold. */
+    private static final int NOT_FORETOLD = MOST_FORETOLD + 1;
     private static final int MOST_AGAIN = 240;
     private static final int MOST_UNDONE = 8;
     private static final int MOST_FIX_GAP = 12;
@@ -252,10 +254,10 @@ public final class NineNoons {
         }
         trial.becomeLike(now);
         int first = trial.passDaysUntilTogether();
-        if (what == 0) {
-            return first;
+        if (first == NOT_FORETOLD) {
+            return what == 0 ? NONE : 0;
         }
-        return first == NONE ? 0 : trial.ringers();
+        return what == 0 ? first : trial.ringers();
     }
 
     public int fix(int g, int village) {
@@ -309,11 +311,19 @@ public final class NineNoons {
         if (!within(what, 0, 1)) {
             return BAD;
         }
-        int village = worstVillage();
-        if (village == NONE || what == 0) {
-            return village;
+        int worst = NONE;
+        int latest = NONE;
+        for (int village = 0; village < now.villages; village++) {
+            int first = togetherWithoutDriftOf(village);
+            if (first > latest) {
+                latest = first;
+                worst = village;
+            }
         }
-        return togetherWithoutDriftOf(village);
+        if (what == 0) {
+            return worst;
+        }
+        return latest == NOT_FORETOLD ? NONE : latest;
     }
 
     public int fog(int c, int what) {
@@ -360,20 +370,6 @@ public final class NineNoons {
             }
         }
         return minutes;
-    }
-
-    private int worstVillage() {
-        int latest = -1;
-        int village = NONE;
-        for (int i = 0; i < now.villages; i++) {
-            int first = togetherWithoutDriftOf(i);
-            int rank = first == NONE ? MOST_FORETOLD + 1 : first;
-            if (rank > latest) {
-                latest = rank;
-                village = i;
-            }
-        }
-        return village;
     }
 
     private int togetherWithoutDriftOf(int village) {
@@ -538,8 +534,8 @@ public final class NineNoons {
     }
 
     private static int shorterWay(int minute, int other) {
-        int minutes = Math.abs(minute - other);
-        return Math.min(minutes, HOUR - minutes);
+        int minutes = minute < other ? other - minute : minute - other;
+        return minutes <= WIDEST_GAP ? minutes : HOUR - minutes;
     }
 
     private static int greatestDivisor(int number, int other) {
@@ -693,7 +689,7 @@ public final class NineNoons {
 
         int hearerShift(int village) {
             for (int other = 0; other < villages; other++) {
-                if (other != village && gapBetween(village, other) <= HEARING_GAP) {
+                if (other != village && shorterWay(minutes[village], minutes[other]) <= HEARING_GAP) {
                     return 0;
                 }
             }
@@ -724,7 +720,7 @@ public final class NineNoons {
             }
         }
 
-        /** Passes days until two ring together: how many, or NONE. */
+        /** Passes days until two ring together: how many, or NOT_FORETOLD. */
         int passDaysUntilTogether() {
             for (int n = 0; n <= MOST_FORETOLD; n++) {
                 if (ringers() != 0) {
@@ -732,7 +728,7 @@ public final class NineNoons {
                 }
                 passDay();
             }
-            return NONE;
+            return NOT_FORETOLD;
         }
     }
 
@@ -792,17 +788,22 @@ public final class NineNoons {
             if (village >= valley.villages) {
                 return left == 0;
             }
-            int mostBehind = MOST_FIX_SHIFT * (valley.villages - village - 1);
             for (int shift = -MOST_FIX_SHIFT; shift <= MOST_FIX_SHIFT; shift++) {
-                int leftBehind = left - Math.abs(shift);
-                if (leftBehind >= 0 && leftBehind <= mostBehind) {
-                    shifts[village] = shift;
-                    if (isClearOfEarlier(valley, g, village) && settle(valley, g, village + 1, leftBehind)) {
-                        return true;
-                    }
+                if (settleBy(valley, g, village, shift, left)) {
+                    return true;
                 }
             }
             return false;
+        }
+
+        private boolean settleBy(Valley valley, int g, int village, int shift, int left) {
+            int leftBehind = left - Math.abs(shift);
+            int mostBehind = MOST_FIX_SHIFT * (valley.villages - village - 1);
+            if (leftBehind < 0 || leftBehind > mostBehind) {
+                return false;
+            }
+            shifts[village] = shift;
+            return isClearOfEarlier(valley, g, village) && settle(valley, g, village + 1, leftBehind);
         }
 
         private boolean isClearOfEarlier(Valley valley, int g, int village) {
@@ -824,17 +825,18 @@ public final class NineNoons {
     private static final class Carrier {
         final int[] order = new int[MOST_VILLAGES];
         final int[] bestOrder = new int[MOST_VILLAGES];
-        int bestTime = 0;
+        int bestTime = NEVER;
+        int minutesAMile = 1;
 
         int soonest(Valley valley, int village, int minute, int w) {
             bestTime = NEVER;
-            hearOn(valley, w, valley.miles[village], minute, 0);
+            minutesAMile = w;
+            hearRest(valley, valley.miles[village], minute, 0, 0);
             return bestTime - minute;
         }
 
-        /** Hears the rest from a place and a time on; to be sooner at one village never makes the next one later. */
-        private void hearOn(Valley valley, int w, int mile, int time, int done) {
-            int k = Integer.bitCount(done);
+        /** Hears all that is not done, from a place and a time on, as the k-th and those behind it. */
+        private void hearRest(Valley valley, int mile, int time, int done, int k) {
             if (k >= valley.villages) {
                 bestTime = time;
                 System.arraycopy(order, 0, bestOrder, 0, MOST_VILLAGES);
@@ -842,13 +844,18 @@ public final class NineNoons {
             }
             for (int village = 0; village < valley.villages; village++) {
                 if (!isIn(done, village)) {
-                    int arrival = time + Math.abs(valley.miles[village] - mile) * w;
-                    int ringing = arrival + roundTheHour(valley.minutes[village] - arrival);
-                    if (ringing < bestTime) {
-                        order[k] = village;
-                        hearOn(valley, w, valley.miles[village], ringing, done | 1 << village);
-                    }
+                    int arrival = time + Math.abs(valley.miles[village] - mile) * minutesAMile;
+                    hearFirst(valley, village, arrival, done, k);
                 }
+            }
+        }
+
+        /** To hear one as soon as it rings never makes the rest later, so no other waiting is tried. */
+        private void hearFirst(Valley valley, int village, int arrival, int done, int k) {
+            int ringing = arrival + roundTheHour(valley.minutes[village] - arrival);
+            if (ringing < bestTime) {
+                order[k] = village;
+                hearRest(valley, valley.miles[village], ringing, done | 1 << village, k + 1);
             }
         }
     }

@@ -113,6 +113,8 @@ public final class DoneTest {
         due.is("10: moved", x.move(1, 39), 40);
         due.is("10: to be undone", x.undo(), 1);
         due.is("10: undone", x.of(1, 3), 40);
+        due.is("10: to 0", x.move(1, 0), 40);
+        due.is("10: miles 0", x.of(1, 3), 0);
     }
 
     private static void promise11() {
@@ -167,6 +169,9 @@ public final class DoneTest {
         due.is("12: with its minutes one", z.undo(), 0);
         minutes("12: undone", z, "0 6");
         due.is("12: the draw, too", z.seed(1), 1);
+        NineNoons one = Due.of("p57+0");
+        due.is("12: one village", one.storm(1), 30);
+        minutes("12: 4 later round the hour", one, "1");
     }
 
     private static void promise13() {

@@ -76,6 +76,8 @@ public final class ForetoldTest {
         NineNoons never = Due.of("p0+1,p10+1");
         due.is("18: never", never.together(0), NineNoons.NONE);
         due.is("18: none", never.together(1), 0);
+        now.ahead(0, 4);
+        due.is("18: now, whatever was foretold", now.together(1), 6);
         due.is("18: -1", x.together(-1), NineNoons.BAD);
         due.is("18: 2", x.together(2), NineNoons.BAD);
         due.is("18: no village", new NineNoons().together(0), NineNoons.NONE);
@@ -209,6 +211,7 @@ public final class ForetoldTest {
         due.is("22: at first a way in, then never", Due.of("h5+1,p10+0").again(), NineNoons.NONE);
         due.is("22: a foggy one on an odd day", oddFoggy().again(), 2);
         due.is("22: just 240", Due.of("h21-2,p17+2").again(), 240);
+        due.is("22: 300 would be too many", Due.of("p31+8@15,p59+5@30,c5-2").again(), NineNoons.NONE);
     }
 
     private static NineNoons oddFoggy() {
@@ -232,6 +235,11 @@ public final class ForetoldTest {
         NineNoons last = Due.of("p0+2,p10+1,p40-1");
         due.is("23: 0 without: 20; 1: 5; 2: 10 as it is", last.worst(0), 0);
         due.is("23: when", last.worst(1), 20 - 5);
+        // Without the drift of 0, which is 0, together behind 60 days; without that of 1 never.
+        NineNoons latest = Due.of("p21-0,p25+9,c7-2@8");
+        due.is("23: as it is", latest.together(0), 60);
+        due.is("23: never is later than 60", latest.worst(0), 1);
+        due.is("23: never", latest.worst(1), NineNoons.NONE);
         NineNoons like = Due.of("p7+1,p7+2,p20+1");
         due.is("23: all now: the first", like.worst(0), 0);
         due.is("23: now", like.worst(1), 0);
@@ -262,6 +270,8 @@ public final class ForetoldTest {
         fogged("p5+1,p5+1", 0, 0, 1);
         fogged("p5+1,p5+1", 10, 0, 1);
         fogged("p5+1,p5+1,p5+1", 5, 0, 1);
+        // Apart, if the first is not late, and just one of the others: 7 * 2 * 3 * 7 of 1000.
+        fogged("p5+1,p6+1,p6+1", 3, 147, 500);
         fogged("p5+1,p6+1", 0, 1, 1);
         fogged("p5+1,p6+1", 10, 1, 1);
         fogged("p1+0,p1+0,p20+0,p20+0,p40+0,p40+0", 1, 729, 125000);
@@ -305,11 +315,27 @@ public final class ForetoldTest {
         x.restore();
         due.is("25: a later image is in place of it", x.count(0), 3);
         due.is("26: nothing to be undone", x.undo(), NineNoons.NONE);
+        ring();
         NineNoons empty = new NineNoons();
         due.is("25: of an empty valley", empty.image(), 1);
         empty.village(0, 0, 0);
         due.is("26: restored", empty.restore(), 1);
         due.is("26: empty", empty.count(0), 0);
+    }
+
+    /** All eight that may be undone are in the image, wherever the latest stood. */
+    private static void ring() {
+        for (int days = 8; days <= 16; days++) {
+            NineNoons x = Due.of("p0+1");
+            x.days(days);
+            x.image();
+            x.days(5);
+            x.restore();
+            for (int left = 7; left >= 0; left--) {
+                due.is("26: undone", x.undo(), left);
+                due.is("26: the minute", x.of(0, 1), days - 8 + left);
+            }
+        }
     }
 
     private static void nothingIsChanged() {

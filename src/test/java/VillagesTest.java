@@ -208,6 +208,11 @@ public final class VillagesTest {
     }
 
     private static void promise6Replaces() {
+        NineNoons again = new NineNoons();
+        Due.valley(again, "p123+1");
+        due.is("6: letters of an earlier tape are gone", Due.valley(again, "p1"), -22);
+        Due.valley(again, "p1+123");
+        due.is("6: letters of an earlier tape are gone", Due.valley(again, "p1+"), -23);
         NineNoons x = Due.of("p1+1@5,p2+2");
         x.seed(77);
         x.days(3);
