@@ -77,7 +77,7 @@ public final class ForetoldTest {
         due.is("18: never", never.together(0), NineNoons.NONE);
         due.is("18: none", never.together(1), 0);
         now.ahead(0, 4);
-        due.is("18: now, whatever was foretold", now.together(1), 6);
+        due.is("18: now, whatever was foretold", now.together(0), 0);
         due.is("18: -1", x.together(-1), NineNoons.BAD);
         due.is("18: 2", x.together(2), NineNoons.BAD);
         due.is("18: no village", new NineNoons().together(0), NineNoons.NONE);

@@ -211,6 +211,10 @@ public final class VillagesTest {
         NineNoons again = new NineNoons();
         Due.valley(again, "p123+1");
         due.is("6: letters of an earlier tape are gone", Due.valley(again, "p1"), -22);
+        due.is("6: letters of an earlier tape are gone", Due.valley(again, "p6"), -22);
+        due.is("6: a number at the end of a full tape", Due.valley(again, " ".repeat(58) + "p6"), -80);
+        due.is("6: a drift at the end of a full tape", Due.valley(again, " ".repeat(56) + "p6+1"), 1);
+        due.is("6: miles at the end of a full tape", Due.valley(again, " ".repeat(54) + "p6+1@5"), 1);
         Due.valley(again, "p1+123");
         due.is("6: letters of an earlier tape are gone", Due.valley(again, "p1+"), -23);
         NineNoons x = Due.of("p1+1@5,p2+2");
