@@ -23,11 +23,15 @@ final class Due {
         }
     }
 
-    /** Types a text and reads it as a valley. */
-    static int valley(NineNoons x, String text) {
+    static void type(NineNoons x, String text) {
         for (char letter : text.toCharArray()) {
             x.type(letter);
         }
+    }
+
+    /** Types a text and reads it as a valley. */
+    static int valley(NineNoons x, String text) {
+        type(x, text);
         return x.valley();
     }
 
