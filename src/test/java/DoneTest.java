@@ -17,11 +17,6 @@ public final class DoneTest {
         due.end();
     }
 
-    private static void minutes(String call, NineNoons x, String want) {
-        String got = Due.minutes(x);
-        due.isTrue(call + ": minutes " + got + ", due are " + want, got.equals(want));
-    }
-
     private static void promise8() {
         NineNoons x = Due.of("p58+3,s10-7@30,f20+9");
         for (int n : new int[] {0, -1, 41, Integer.MIN_VALUE, Integer.MAX_VALUE}) {
@@ -29,16 +24,16 @@ public final class DoneTest {
         }
         due.is("8: nothing changed", x.count(1), 0);
         due.is("8: a day", x.days(1), 6);
-        minutes("8: a day", x, "1 7 24");
+        due.minutes("8: a day", x, "1 7 24");
         due.is("8: the odd day goes back", x.days(1), 0);
-        minutes("8: two", x, "4 4 20");
+        due.minutes("8: two", x, "4 4 20");
         due.is("8: the day", x.count(1), 2);
         due.is("8: 39", x.days(39), 6);
-        minutes("8: 41 days: 58 and 123, 10 less 123, 24", x, "1 7 24");
+        due.minutes("8: 41 days: 58 and 123, 10 less 123, 24", x, "1 7 24");
         due.is("8: undone", x.undo(), 7);
-        minutes("8: 40 days", x, "58 10 20");
+        due.minutes("8: 40 days", x, "58 10 20");
         due.is("8: 40", x.days(40), 10);
-        minutes("8: 80 days: 58 and 240, 10 less 240, 20", x, "58 10 20");
+        due.minutes("8: 80 days: 58 and 240, 10 less 240, 20", x, "58 10 20");
         due.is("8: each by itself", x.undo(), 7);
         due.is("8: the day", x.count(1), 79);
         NineNoons none = new NineNoons();
@@ -51,14 +46,14 @@ public final class DoneTest {
     private static void promise8AllAtOnce() {
         NineNoons x = Due.of("p0+9,h5+3,p12+0");
         x.days(1);
-        minutes("8: 0 goes from 5, then 9 hears 12", x, "9 8 12");
+        due.minutes("8: 0 goes from 5, then 9 hears 12", x, "9 8 12");
         x.days(1);
-        minutes("8: the hearer stands: 9 is 1 from 8", x, "18 8 12");
+        due.minutes("8: the hearer stands: 9 is 1 from 8", x, "18 8 12");
         x.days(1);
-        minutes("8: it goes: 18, 12 are far", x, "27 11 12");
+        due.minutes("8: it goes: 18, 12 are far", x, "27 11 12");
         NineNoons y = Due.of("h5+3,p9-9");
         y.days(1);
-        minutes("8: heard by how all is ahead", y, "8 0");
+        due.minutes("8: heard by how all is ahead", y, "8 0");
     }
 
     private static void promise8Full() {
@@ -91,11 +86,11 @@ public final class DoneTest {
         due.is("9: so it is", x.set(0, 5), NineNoons.NOT);
         due.is("9: nothing to be undone", x.count(6), 0);
         due.is("9: set", x.set(1, 59), 6);
-        minutes("9: set", x, "5 59");
+        due.minutes("9: set", x, "5 59");
         due.is("9: set", x.set(1, 0), 59);
         due.is("9: the day stays", x.count(1), 0);
         due.is("9: to be undone", x.undo(), 1);
-        minutes("9: undone", x, "5 59");
+        due.minutes("9: undone", x, "5 59");
     }
 
     private static void promise10() {
@@ -133,10 +128,6 @@ public final class DoneTest {
         due.is("11: undone", x.of(1, 2), 18);
     }
 
-    private static long next(long draw) {
-        return (draw * 1103515245L + 12345L) % (1L << 31);
-    }
-
     private static void promise12() {
         NineNoons x = new NineNoons();
         for (int n : new int[] {0, -1, 41, Integer.MIN_VALUE, Integer.MAX_VALUE}) {
@@ -144,19 +135,19 @@ public final class DoneTest {
         }
         due.is("12: without villages", x.storm(2), 30);
         due.is("12: the day", x.count(1), 2);
-        due.is("12: the draw all the same", x.seed(1), next(next(1)));
+        due.is("12: the draw all the same", x.seed(1), Due.nextDraw(Due.nextDraw(1)));
         NineNoons y = Due.of("p0+1,p20+2,p40+3");
         y.seed(2147483647);
         long draw = 2147483647L;
         int[] minutes = {0, 20, 40};
         for (int day = 1; day <= 30; day++) {
-            draw = next(draw);
+            draw = Due.nextDraw(draw);
             minutes[(int) (draw / 65536 % 3)] += (int) (draw / 128 % 5);
             for (int village = 0; village < 3; village++) {
                 minutes[village] = (minutes[village] + village + 1) % 60;
             }
             long least = y.storm(1);
-            minutes("12: day " + day, y, minutes[0] + " " + minutes[1] + " " + minutes[2]);
+            due.minutes("12: day " + day, y, minutes[0] + " " + minutes[1] + " " + minutes[2]);
             due.is("12: least gap", least, Math.min(Math.min(y.gap(0, 1), y.gap(0, 2)), y.gap(1, 2)));
         }
         due.is("12: the day", y.count(1), 30);
@@ -165,13 +156,13 @@ public final class DoneTest {
         // 1103527590: village 1103527590 / 65536 = 16838, left over by 2: 0; by 128: 8621309, left over by 5: 4.
         NineNoons z = Due.of("h0+9,p6+0");
         due.is("12: later ahead of the day, so that the hearer hears", z.storm(1), 2);
-        minutes("12: 4, which hears 6", z, "4 6");
+        due.minutes("12: 4, which hears 6", z, "4 6");
         due.is("12: with its minutes one", z.undo(), 0);
-        minutes("12: undone", z, "0 6");
+        due.minutes("12: undone", z, "0 6");
         due.is("12: the draw, too", z.seed(1), 1);
         NineNoons one = Due.of("p57+0");
         due.is("12: one village", one.storm(1), 30);
-        minutes("12: 4 later round the hour", one, "1");
+        due.minutes("12: 4 later round the hour", one, "1");
     }
 
     private static void promise13() {
@@ -223,7 +214,7 @@ public final class DoneTest {
         x.undo();
         due.is("13: the draw as ahead of it, whatever was told since", x.seed(5), 5);
         x.storm(2);
-        long second = next(5);
+        long second = Due.nextDraw(5);
         x.undo();
         due.is("13: the draw ahead of the second day", x.seed(8), second);
         x.undo();
@@ -239,6 +230,6 @@ public final class DoneTest {
         due.is("14: greatest", x.seed(3), 2147483647);
         due.is("14: nothing to be undone", x.undo(), NineNoons.NONE);
         x.storm(1);
-        due.is("14: drawn from it", x.seed(3), next(3));
+        due.is("14: drawn from it", x.seed(3), Due.nextDraw(3));
     }
 }

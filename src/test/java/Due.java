@@ -15,6 +15,11 @@ final class Due {
         is(what, holds ? 1 : 0, 1);
     }
 
+    void minutes(String call, NineNoons x, String want) {
+        String got = minutes(x);
+        isTrue(call + ": minutes " + got + ", due are " + want, got.equals(want));
+    }
+
     /** Ends the test: with exit code 1, if an answer was wrong. */
     void end() {
         System.out.println(wrong == 0 ? calls + " answers are as due" : wrong + " answers are not as due");
@@ -43,6 +48,28 @@ final class Due {
             throw new IllegalArgumentException(text + ": " + answer);
         }
         return x;
+    }
+
+    /** A new object with the valley of a text and a row of ints at sheet 0. */
+    static NineNoons withRow(String text, long... items) {
+        NineNoons x = of(text);
+        x.sheet(0, 2, items.length);
+        for (int i = 0; i < items.length; i++) {
+            x.item(0, 2, i, items[i]);
+        }
+        return x;
+    }
+
+    /** Any number of days, as 40 at most go by in one call. */
+    static void passDays(NineNoons x, int n) {
+        for (int left = n; left > 0; left -= 40) {
+            x.days(Math.min(left, 40));
+        }
+    }
+
+    /** What THE DRAW becomes ahead of a day of a storm. */
+    static long nextDraw(long draw) {
+        return (draw * 1103515245L + 12345L) % (1L << 31);
     }
 
     static String minutes(NineNoons x) {

@@ -36,19 +36,9 @@ public final class EdgeDoneTest {
         due.end();
     }
 
-    private static void minutes(String call, NineNoons x, String want) {
-        String got = Due.minutes(x);
-        due.isTrue(call + ": minutes " + got + ", due are " + want, got.equals(want));
-    }
-
     private static NineNoons atDay(int day) {
         NineNoons x = Due.of("p0+1,p20+1");
-        for (int i = 0; i < day / 40; i++) {
-            x.days(40);
-        }
-        if (day % 40 > 0) {
-            x.days(day % 40);
-        }
+        Due.passDays(x, day);
         return x;
     }
 
@@ -130,7 +120,7 @@ public final class EdgeDoneTest {
         NineNoons x = Due.of("p5+1@3,h6-1@4,c7+2@5");
         x.days(1);
         x.set(1, 40);
-        minutes("9: a VILLAGE RINGS at another MINUTE", x, "6 40 8");
+        due.minutes("9: a VILLAGE RINGS at another MINUTE", x, "6 40 8");
         int[] want = {2, 40, 8, 4, 29, 0};
         for (int what = 0; what < 6; what++) {
             due.is("9: all else of it stays: " + what, x.of(1, what), want[what]);
@@ -166,7 +156,7 @@ public final class EdgeDoneTest {
         for (int village = 0; village < 3; village++) {
             due.is("10: it stands at other MILES", x.of(village, 3), want[village]);
         }
-        minutes("10: MINUTES stay", x, "6 5 9");
+        due.minutes("10: MINUTES stay", x, "6 5 9");
         due.is("10: DRIFT stays", x.of(1, 2), 8);
         due.is("10: the DAY stays", x.count(1), 1);
         due.is("10: may be UNDONE", x.count(6), 2);
@@ -201,17 +191,13 @@ public final class EdgeDoneTest {
         for (int village = 0; village < 3; village++) {
             due.is("11: its DRIFT is another", x.of(village, 2), want[village]);
         }
-        minutes("11: MINUTES stay", x, "6 5 9");
+        due.minutes("11: MINUTES stay", x, "6 5 9");
         due.is("11: MILES stay", x.of(1, 3), 4);
         due.is("11: the DAY stays", x.count(1), 1);
         due.is("11: may be UNDONE", x.count(6), 2);
     }
 
     // ---- promise 12
-
-    private static long next(long draw) {
-        return (draw * 1103515245L + 12345L) % (1L << 31);
-    }
 
     private static void stormTakes() {
         edge.numbers("12: a STORM of n DAYS (1 .. 40)", 1, 40, Scene.BUSY, (x, n) -> x.storm(n));
@@ -243,7 +229,7 @@ public final class EdgeDoneTest {
                 x.seed((int) seed);
                 long draw = seed;
                 for (int day = 0; day < 40; day++) {
-                    draw = next(draw);
+                    draw = Due.nextDraw(draw);
                     minutes[(int) (draw / 65536 % villages)] += (int) (draw / 128 % 5);
                     for (int village = 0; village < villages; village++) {
                         minutes[village] = (minutes[village] + village - 3 + 60) % 60;
@@ -261,7 +247,7 @@ public final class EdgeDoneTest {
     private static void stormWithoutVillages() {
         NineNoons x = new NineNoons();
         due.is("12: if there are VILLAGES: none: the least GAP (30)", x.storm(3), 30);
-        due.is("12: THE DRAW goes on", x.seed(0), next(next(next(1))));
+        due.is("12: THE DRAW goes on", x.seed(0), Due.nextDraw(Due.nextDraw(Due.nextDraw(1))));
         due.is("12: the DAY goes on", x.count(1), 3);
         due.is("12: each may be UNDONE", x.count(6), 3);
         due.is("12: one VILLAGE: the least GAP (30)", Due.of("p0+1").storm(1), 30);
@@ -271,19 +257,19 @@ public final class EdgeDoneTest {
 
     private static void stormAheadOfTheDay() {
         // The first draw is 1103527590: by 65536 it is 16838, by 128 it is 8621309.
-        due.is("12: the first draw", next(1), 1103527590L);
+        due.is("12: the first draw", Due.nextDraw(1), 1103527590L);
         NineNoons x = Due.of("h0+9,p7+0");
         x.storm(1);
-        minutes("12: 4 minutes later ahead of the DAY, so that it hears 7", x, "4 7");
+        due.minutes("12: 4 minutes later ahead of the DAY, so that it hears 7", x, "4 7");
         NineNoons y = Due.of("h0+9,p3+0");
         y.storm(1);
-        minutes("12: 4 minutes later is 1 behind 3", y, "4 3");
+        due.minutes("12: 4 minutes later is 1 behind 3", y, "4 3");
         NineNoons z = Due.of("h0+9,p8+0");
         z.storm(1);
-        minutes("12: 4 minutes later: 8 is 4 away", z, "13 8");
+        due.minutes("12: 4 minutes later: 8 is 4 away", z, "13 8");
         NineNoons round = Due.of("p56+0");
         round.storm(1);
-        minutes("12: later round the hour", round, "0");
+        due.minutes("12: later round the hour", round, "0");
     }
 
     private static void stormUndone() {
@@ -295,7 +281,7 @@ public final class EdgeDoneTest {
         for (int day = 0; day <= 12; day++) {
             minutes[day] = Due.minutes(x);
             draws[day] = draw;
-            draw = next(draw);
+            draw = Due.nextDraw(draw);
             x.storm(1);
         }
         NineNoons y = Due.of("p0+1,p20-2@7");
@@ -303,7 +289,7 @@ public final class EdgeDoneTest {
         y.storm(12);
         for (int left = 7; left >= 0; left--) {
             due.is("12: each with its minutes one that may be UNDONE", y.undo(), left);
-            minutes("12: its minutes, too", y, minutes[4 + left]);
+            due.minutes("12: its minutes, too", y, minutes[4 + left]);
             due.is("12: the DAY as ahead of it", y.count(1), 4 + left);
             due.is("12: THE DRAW as ahead of it", y.seed(0), draws[4 + left]);
         }

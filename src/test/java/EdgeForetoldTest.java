@@ -63,14 +63,14 @@ public final class EdgeForetoldTest {
 
     private static void aheadIsAsDaysWouldBe() {
         for (Scene scene : new Scene[] {Scene.BUSY, Scene.FULL}) {
-            NineNoons then = scene.make();
             for (int n = 0; n <= 60; n++) {
                 NineNoons x = scene.make();
+                NineNoons then = scene.make();
+                Due.passDays(then, n);
                 for (int village = 0; village < then.count(0); village++) {
                     due.is("15: behind n DAYS, " + n, x.ahead(village, n), then.of(village, 1));
                 }
                 due.is("16: behind n DAYS, " + n, x.near(n), then.count(2));
-                then.days(1);
             }
         }
         due.is("15: behind 0 DAYS: now", Due.of("p59+9").ahead(0, 0), 59);
@@ -153,8 +153,7 @@ public final class EdgeForetoldTest {
             x.days(1);
             due.is("18: 60 a DAY later", x.together(0), 60);
             int which = x.together(1);
-            x.days(40);
-            x.days(20);
+            Due.passDays(x, 60);
             due.is("18: which, behind 60", which, x.count(3));
         }
         due.is("18: NONE", Due.of("p0+1,p1+1").together(0), NONE);
@@ -276,7 +275,8 @@ public final class EdgeForetoldTest {
             free("GAP is g or more, round the hour", text, 2,
                 ALL - (1L << minute) - (1L << (minute + 1) % 60) - (1L << (minute + 59) % 60));
             free("GAP is g or more: 30 is across", text, 30, 1L << (minute + 30) % 60);
-            free("GAP is g or more: 29", text, 29, 1L << (minute + 29) % 60 | 1L << (minute + 30) % 60 | 1L << (minute + 31) % 60);
+            free("GAP is g or more: 29", text, 29,
+                1L << (minute + 29) % 60 | 1L << (minute + 30) % 60 | 1L << (minute + 31) % 60);
         }
         free("bit 0", "p30+0", 30, 1);
         free("bit 59", "p29+0", 30, 1L << 59);
@@ -392,6 +392,12 @@ public final class EdgeForetoldTest {
 
     private static void hearMinutesAsTheyAreNow() {
         due.is("21: MINUTES as they are now", Due.of("p10+9,s20-9@10,c40+9").hear(0, 0, 1, -1), 40);
+        NineNoons x = Due.of("p10+0,p30+0@40");
+        due.is("21: 1 as he comes, 0 as he comes back", x.hear(0, 50, 1, -1), 80);
+        due.is("21: whatever was asked ahead: a long way", x.hear(0, 10, 9, -1), 380);
+        due.is("21: whatever was asked ahead: 0 ahead of 1", x.hear(0, 10, 9, 0), 0);
+        due.is("21: whatever was asked ahead: 1 ahead of 0", x.hear(1, 30, 1, 0), 1);
+        due.is("21: whatever was asked ahead: back to 0", x.hear(1, 30, 1, -1), 40);
     }
 
     // ---- promise 22
@@ -421,10 +427,7 @@ public final class EdgeForetoldTest {
             NineNoons x = Due.of(text);
             String now = Due.minutes(x);
             due.is("22: none: it would be 244", x.again(), NONE);
-            for (int i = 0; i < 6; i++) {
-                x.days(40);
-            }
-            x.days(4);
+            Due.passDays(x, 244);
             due.isTrue("22: as now behind 244", Due.minutes(x).equals(now));
         }
         due.is("22: none", Due.of("h5+1,p10+0").again(), NONE);
@@ -433,6 +436,7 @@ public final class EdgeForetoldTest {
     private static void againOfEmpty() {
         due.is("22: of no VILLAGE", new NineNoons().again(), 2);
         due.is("22: above the last DAY", Scene.LAST.make().again(), 60);
+        due.is("22: of six", Due.of("p0+6,p10+6,p20+6,p30+6,p40+6,p50+6").again(), 10);
     }
 
     // ---- promise 23
@@ -508,6 +512,9 @@ public final class EdgeForetoldTest {
     private static void fogRoundTheHour() {
         fogged("1 minute later round the hour", "p59+1,p0+1", 5, 3, 4);
         fogged("2 minutes are never together", "p58+1,p0+1", 5, 1, 1);
+        // Apart, if the first is not late and just one of the others is: 7 * (3 * 7 + 7 * 3) of 1000.
+        fogged("later, not earlier", "p5+1,p6+1,p6+1", 3, 147, 500);
+        fogged("later, not earlier, round the hour", "p59+1,p0+1,p0+1", 3, 147, 500);
     }
 
     private static void fogOfNone() {

@@ -43,16 +43,6 @@ public final class EdgeSheetsTest {
         due.end();
     }
 
-    /** A valley with a row of ints at sheet 0. */
-    private static NineNoons withRow(String text, long... items) {
-        NineNoons x = Due.of(text);
-        x.sheet(0, 2, items.length);
-        for (int i = 0; i < items.length; i++) {
-            x.item(0, 2, i, items[i]);
-        }
-        return x;
-    }
-
     private static void items(String sentence, NineNoons x, int sheet, int lane, int... want) {
         Due.valley(x, "p9+0");
         int[] got = Witness.items(x, sheet, lane);
@@ -103,7 +93,7 @@ public final class EdgeSheetsTest {
     }
 
     private static void heardRowOfUpToEight() {
-        NineNoons x = withRow("p50+4", 54, 58, 2, 6, 10, 14, 18, 22, 26);
+        NineNoons x = Due.withRow("p50+4", 54, 58, 2, 6, 10, 14, 18, 22, 26);
         for (int n = 1; n <= 8; n++) {
             due.is("27: behind each of the next n DAYS: DRIFTS, " + n, x.heard(0, 0, 2, 0, n, 1), 1 << 13);
             due.is("27: behind each of the next n DAYS: KINDS, " + n, x.heard(0, 0, 2, 0, n, 0), 1 | 4 | 16);
@@ -112,7 +102,7 @@ public final class EdgeSheetsTest {
 
     private static void heardEachItemCounts() {
         for (int wrong = 0; wrong < 8; wrong++) {
-            NineNoons x = withRow("p50+4", 54, 58, 2, 6, 10, 14, 18, 22);
+            NineNoons x = Due.withRow("p50+4", 54, 58, 2, 6, 10, 14, 18, 22);
             x.item(0, 2, wrong, 55);
             due.is("27: each of the next n DAYS: not item " + wrong, x.heard(0, 0, 2, 0, 8, 0), 0);
             due.is("27: each of the next n DAYS: not item " + wrong, x.heard(0, 0, 2, 0, 8, 1), 0);
@@ -123,39 +113,39 @@ public final class EdgeSheetsTest {
     }
 
     private static void heardKinds() {
-        due.is("27: KINDS: all", withRow("p50+0", 50, 50).heard(0, 0, 2, 0, 2, 0), 31);
-        due.is("27: KINDS: none", withRow("p50+4", 51).heard(0, 0, 2, 0, 1, 0), 0);
-        due.is("27: KINDS: SLOW and FOGGY", withRow("h50+4", 52).heard(0, 0, 2, 0, 1, 0), 2 | 8);
-        due.is("27: KINDS: SLOW", withRow("h50+4", 52, 54).heard(0, 0, 2, 0, 2, 0), 2);
-        due.is("27: KINDS: FOGGY", withRow("h50+4", 52, 50).heard(0, 0, 2, 0, 2, 0), 8);
-        due.is("27: KINDS: COUSIN", withRow("s50+4,p20+0", 55).heard(0, 0, 2, 0, 1, 0), 16);
-        due.is("27: KINDS: HEARER", withRow("s50+4,p47+0@11", 50).heard(0, 0, 2, 0, 1, 0), 4 | 16);
-        due.is("27: KINDS: PLAIN", withRow("s50+4,p47+0@11", 54).heard(0, 0, 2, 0, 1, 0), 1);
-        NineNoons odd = withRow("p50+4", 48, 50);
+        due.is("27: KINDS: all", Due.withRow("p50+0", 50, 50).heard(0, 0, 2, 0, 2, 0), 31);
+        due.is("27: KINDS: none", Due.withRow("p50+4", 51).heard(0, 0, 2, 0, 1, 0), 0);
+        due.is("27: KINDS: SLOW and FOGGY", Due.withRow("h50+4", 52).heard(0, 0, 2, 0, 1, 0), 2 | 8);
+        due.is("27: KINDS: SLOW", Due.withRow("h50+4", 52, 54).heard(0, 0, 2, 0, 2, 0), 2);
+        due.is("27: KINDS: FOGGY", Due.withRow("h50+4", 52, 50).heard(0, 0, 2, 0, 2, 0), 8);
+        due.is("27: KINDS: COUSIN", Due.withRow("s50+4,p20+0", 55).heard(0, 0, 2, 0, 1, 0), 16);
+        due.is("27: KINDS: HEARER", Due.withRow("s50+4,p47+0@11", 50).heard(0, 0, 2, 0, 1, 0), 4 | 16);
+        due.is("27: KINDS: PLAIN", Due.withRow("s50+4,p47+0@11", 54).heard(0, 0, 2, 0, 1, 0), 1);
+        NineNoons odd = Due.withRow("p50+4", 48, 50);
         odd.tune(0, 9);
         odd.days(1);
         odd.tune(0, 13);
         due.is("27: KINDS: FOGGY on an odd DAY", odd.heard(0, 0, 2, 0, 2, 0), 8);
-        due.is("27: KINDS, whichever its own is", withRow("c50+4", 54).heard(0, 0, 2, 0, 1, 0), 1 | 4 | 16);
+        due.is("27: KINDS, whichever its own is", Due.withRow("c50+4", 54).heard(0, 0, 2, 0, 1, 0), 1 | 4 | 16);
     }
 
     private static void heardDrifts() {
         for (int drift = -9; drift <= 9; drift++) {
-            NineNoons x = withRow("p50+3", (50 + drift + 60) % 60, (50 + 2 * drift + 60) % 60);
+            NineNoons x = Due.withRow("p50+3", (50 + drift + 60) % 60, (50 + 2 * drift + 60) % 60);
             due.is("27: DRIFTS (-9 .. 9, a set of bits 0 .. 18): " + drift, x.heard(0, 0, 2, 0, 2, 1), 1 << drift + 9);
         }
-        due.is("27: DRIFTS: 10 is none", withRow("p50+3", 0).heard(0, 0, 2, 0, 1, 1), 0);
-        due.is("27: DRIFTS: -10 is none", withRow("p50+3", 40).heard(0, 0, 2, 0, 1, 1), 0);
-        due.is("27: DRIFTS: of SLOW -1, 0, 1", withRow("s50+3", 50).heard(0, 0, 2, 0, 1, 1), 7 << 8);
-        due.is("27: DRIFTS: of SLOW 8, 9", withRow("s50+3", 54).heard(0, 0, 2, 0, 1, 1), 3 << 17);
-        due.is("27: DRIFTS: of SLOW -8, -9", withRow("s50+3", 46).heard(0, 0, 2, 0, 1, 1), 3);
-        due.is("27: DRIFTS: all of a HEARER that hears", withRow("h50+3,p50+0", 50).heard(0, 0, 2, 0, 1, 1), (1 << 19) - 1);
-        due.is("27: DRIFTS: 9 of a COUSIN by 10", withRow("c50+3,p20+0", 0).heard(0, 0, 2, 0, 1, 1), 1 << 18);
+        due.is("27: DRIFTS: 10 is none", Due.withRow("p50+3", 0).heard(0, 0, 2, 0, 1, 1), 0);
+        due.is("27: DRIFTS: -10 is none", Due.withRow("p50+3", 40).heard(0, 0, 2, 0, 1, 1), 0);
+        due.is("27: DRIFTS: of SLOW -1, 0, 1", Due.withRow("s50+3", 50).heard(0, 0, 2, 0, 1, 1), 7 << 8);
+        due.is("27: DRIFTS: of SLOW 8, 9", Due.withRow("s50+3", 54).heard(0, 0, 2, 0, 1, 1), 3 << 17);
+        due.is("27: DRIFTS: of SLOW -8, -9", Due.withRow("s50+3", 46).heard(0, 0, 2, 0, 1, 1), 3);
+        due.is("27: DRIFTS: all of a HEARER that hears", Due.withRow("h50+3,p50+0", 50).heard(0, 0, 2, 0, 1, 1), (1 << 19) - 1);
+        due.is("27: DRIFTS: 9 of a COUSIN by 10", Due.withRow("c50+3,p20+0", 0).heard(0, 0, 2, 0, 1, 1), 1 << 18);
     }
 
     private static void heardItemsThatAreNoMinutes() {
         for (long item : new long[] {60, -1, 110, 50 - 60, 50 + 256, 50 + 65536, Integer.MIN_VALUE, Integer.MAX_VALUE}) {
-            NineNoons x = withRow("p50+0", item);
+            NineNoons x = Due.withRow("p50+0", item);
             due.is("27: no MINUTE: " + item, x.heard(0, 0, 2, 0, 1, 0), 0);
             due.is("27: no MINUTE: " + item, x.heard(0, 0, 2, 0, 1, 1), 0);
         }
@@ -220,7 +210,8 @@ public final class EdgeSheetsTest {
             NineNoons all = Due.of("p0+1");
             all.sheet(3, lane, 24);
             due.is("28: film: 24", all.film(0, 24, 3, lane, 0), 24);
-            items("28: 24 items", all, 3, lane, 1, 2, 3, 4, 5, 6, 7, 8, 9, 10, 11, 12, 13, 14, 15, 16, 17, 18, 19, 20, 21, 22, 23, 24);
+            items("28: 24 items", all, 3, lane,
+                1, 2, 3, 4, 5, 6, 7, 8, 9, 10, 11, 12, 13, 14, 15, 16, 17, 18, 19, 20, 21, 22, 23, 24);
         }
     }
 

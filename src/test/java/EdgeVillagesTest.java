@@ -113,7 +113,8 @@ public final class EdgeVillagesTest {
 
     private static void slowIsHalfCutTowardsZero() {
         for (int drift = -9; drift <= 9; drift++) {
-            due.is("part 1: SLOW: half, cut towards 0, of " + drift, Due.of(village(1, 0, drift, 0)).of(0, 4), HALVES[drift + 9] + 30);
+            due.is("part 1: SLOW: half, cut towards 0, of " + drift,
+                Due.of(village(1, 0, drift, 0)).of(0, 4), HALVES[drift + 9] + 30);
         }
     }
 
@@ -136,7 +137,8 @@ public final class EdgeVillagesTest {
                 for (int village = 0; village < 6; village++) {
                     x.village(village == hearer ? 2 : 0, village == hearer ? 0 : village == near ? 3 : 10 + 5 * village, 5);
                 }
-                due.is("part 1: if there is another VILLAGE: " + near + " for " + hearer, x.of(hearer, 4), near == hearer ? 35 : 30);
+                due.is("part 1: if there is another VILLAGE: " + near + " for " + hearer,
+                    x.of(hearer, 4), near == hearer ? 35 : 30);
                 due.is("part 1: PLAIN hears none", x.of((hearer + 1) % 6, 4), 35);
             }
         }

@@ -21,16 +21,16 @@ public final class ForetoldTest {
     }
 
     private static void promise15() {
-        NineNoons x = Due.of("p5+4@3,s12-7@12,h40+5@20,f58-6@9,c30+2@31,p21-1");
-        NineNoons y = Due.of("p5+4@3,s12-7@12,h40+5@20,f58-6@9,c30+2@31,p21-1");
+        String text = "p5+4@3,s12-7@12,h40+5@20,f58-6@9,c30+2@31,p21-1";
+        NineNoons x = Due.of(text);
         x.days(1);
-        y.days(1);
         for (int n = 0; n <= 60; n++) {
+            NineNoons y = Due.of(text);
+            Due.passDays(y, 1 + n);
             for (int village = 0; village < 6; village++) {
                 due.is("15: ahead(" + village + ", " + n + ")", x.ahead(village, n), y.of(village, 1));
             }
             due.is("16: near(" + n + ")", x.near(n), y.count(2));
-            y.days(1);
         }
         due.is("15: n 61", x.ahead(0, 61), NineNoons.BAD);
         due.is("15: n -1", x.ahead(0, -1), NineNoons.BAD);

@@ -2,8 +2,10 @@ import java.util.Random;
 
 /** All promises: many runs of calls, ordinary and wrong ones, answered as the model answers them. */
 public final class ModelTest {
-    private static final int RUNS = 400;
+    private static final int RUNS = 500;
     private static final int CALLS = 512;
+    /** A text that is typed and read takes up to so many calls at once. */
+    private static final int CALLS_OF_A_TEXT = 80;
     private static final int[] ODD = {-2, -1, 0, 60, 61, Integer.MIN_VALUE, Integer.MAX_VALUE};
 
     private final Random random;
@@ -11,6 +13,7 @@ public final class ModelTest {
     private final Model model = new Model();
     private final Due due;
     private final int run;
+    private int calls = 0;
 
     private ModelTest(int run, Due due) {
         this.run = run;
@@ -22,7 +25,7 @@ public final class ModelTest {
         Due due = new Due();
         for (int run = 1; run <= RUNS; run++) {
             ModelTest test = new ModelTest(run, due);
-            for (int call = 0; call < CALLS; call++) {
+            while (test.calls < CALLS - CALLS_OF_A_TEXT) {
                 test.call();
             }
         }
@@ -46,6 +49,7 @@ public final class ModelTest {
     }
 
     private void is(String name, long got, long want, int... arguments) {
+        calls++;
         StringBuilder call = new StringBuilder("run " + run + ": " + name);
         for (int argument : arguments) {
             call.append(' ').append(argument);

@@ -19,46 +19,36 @@ public final class SheetsTest {
         due.end();
     }
 
-    /** A valley with a row of ints at sheet 0. */
-    private static NineNoons withRow(String text, long... items) {
-        NineNoons x = Due.of(text);
-        x.sheet(0, 2, items.length);
-        for (int i = 0; i < items.length; i++) {
-            x.item(0, 2, i, items[i]);
-        }
-        return x;
-    }
-
     private static void promise27() {
         // By 4 a day: PLAIN; HEARER and COUSIN alone in the valley as PLAIN.
-        NineNoons plain = withRow("p5+4", 9, 13, 17);
+        NineNoons plain = Due.withRow("p5+4", 9, 13, 17);
         due.is("27: kinds", plain.heard(0, 0, 2, 0, 3, 0), 1 | 4 | 16);
         due.is("27: drifts", plain.heard(0, 0, 2, 0, 3, 1), 1 << 13);
         // By 2 a day: SLOW; on the first day also FOGGY.
-        NineNoons slow = withRow("p5+4", 7, 9);
+        NineNoons slow = Due.withRow("p5+4", 7, 9);
         due.is("27: kinds of a day", slow.heard(0, 0, 2, 0, 1, 0), 2 | 8);
         due.is("27: kinds of two days", slow.heard(0, 0, 2, 0, 2, 0), 2);
         due.is("27: drifts", slow.heard(0, 0, 2, 0, 2, 1), 1 << 11);
         due.is("27: from item 1 on", slow.heard(0, 0, 2, 1, 1, 0), 1 | 4 | 16);
-        NineNoons foggy = withRow("f5+4", 7, 5, 7, 5);
+        NineNoons foggy = Due.withRow("f5+4", 7, 5, 7, 5);
         due.is("27: foggy", foggy.heard(0, 0, 2, 0, 4, 0), 8);
         due.is("27: cut: 4 and 5", foggy.heard(0, 0, 2, 0, 4, 1), 3 << 13);
         foggy.days(1);
         due.is("27: by 0 it is none", foggy.heard(0, 0, 2, 0, 1, 0), 0);
         due.is("27: on an odd day the other way", foggy.heard(0, 0, 2, 1, 3, 0), 8);
-        NineNoons stands = withRow("s5+1", 5, 5);
+        NineNoons stands = Due.withRow("s5+1", 5, 5);
         due.is("27: -1, 0 and 1 stand, if slow", stands.heard(0, 0, 2, 0, 2, 1), 7 << 8);
         due.is("27: slow and foggy stand by 1", stands.heard(0, 0, 2, 0, 2, 0), 2 | 8);
-        NineNoons none = withRow("p5+4", 60, -1);
+        NineNoons none = Due.withRow("p5+4", 60, -1);
         due.is("27: no minute", none.heard(0, 0, 2, 0, 2, 0), 0);
         due.is("27: no minute", none.heard(0, 0, 2, 0, 2, 1), 0);
-        NineNoons least = withRow("p5-9", 56, 14);
+        NineNoons least = Due.withRow("p5-9", 56, 14);
         due.is("27: -9 round the hour", least.heard(0, 0, 2, 0, 1, 1), 1);
         due.is("27: 9", least.heard(0, 0, 2, 1, 1, 1), 1 << 18);
     }
 
     private static void promise27Refused() {
-        NineNoons x = withRow("p5+4", 9, 13, 17, 21, 25, 29, 33, 37, 41);
+        NineNoons x = Due.withRow("p5+4", 9, 13, 17, 21, 25, 29, 33, 37, 41);
         int[][] bad = {{1, 0, 2, 0, 1, 0}, {-1, 0, 2, 0, 1, 0}, {0, 4, 2, 0, 1, 0}, {0, -1, 2, 0, 1, 0},
             {0, 0, 4, 0, 1, 0}, {0, 0, -1, 0, 1, 0}, {0, 0, 2, 0, 0, 0}, {0, 0, 2, 0, 9, 0},
             {0, 0, 2, 0, 1, 2}, {0, 0, 2, 0, 1, -1}, {0, 3, 0, -1, 9, 0}};
@@ -77,9 +67,9 @@ public final class SheetsTest {
 
     /** Other villages go on by their own kinds, and hear what the one would ring. */
     private static void promise27Alone() {
-        NineNoons x = withRow("p0+2,h10+2", 2, 4, 6, 8, 10);
+        NineNoons x = Due.withRow("p0+2,h10+2", 2, 4, 6, 8, 10);
         due.is("27: plain alone; the hearer drifts off ahead", x.heard(0, 0, 2, 0, 5, 0), 1 | 4);
-        NineNoons near = withRow("p0+2,p2+2@11,p30+0", 0);
+        NineNoons near = Due.withRow("p0+2,p2+2@11,p30+0", 0);
         due.is("27: a hearer would stand; a cousin goes by 1, as the last one is near", near.heard(0, 0, 2, 0, 1, 0), 4);
         near.move(2, 40);
         due.is("27: a cousin would stand, too", near.heard(0, 0, 2, 0, 1, 0), 4 | 16);
@@ -171,7 +161,7 @@ public final class SheetsTest {
             due.is("29: 0", x.sheet(3 - lane, lane, 0), 0);
         }
         due.is("29: of 0 items", x.item(0, 3, 0, 1), NineNoons.INDEX);
-        NineNoons y = withRow("p9+1", 10, 11);
+        NineNoons y = Due.withRow("p9+1", 10, 11);
         due.is("29: refused", y.sheet(0, 0, -1), NineNoons.SIZE);
         due.is("29: it stays", y.heard(0, 0, 2, 0, 2, 1), 1 << 10);
         y.sheet(0, 2, 2);
