@@ -7,6 +7,8 @@ public final class NineNoons {
     public static final int BAD = -1, NOT = -2, FULL = -3, NONE = -4, NULL = -11, CAST = -12, INDEX = -13, SIZE = -14;
 
     private static final int HOUR = 60;
+    /** The minutes of an hour as a set. */
+    private static final long ALL_MINUTES = (1L << HOUR) - 1;
     private static final int WIDEST_GAP = 30;
     private static final int MOST_VILLAGES = 6;
     private static final int MOST_MILES = 40;
@@ -268,14 +270,14 @@ public final class NineNoons {
         if (total == NONE || village == -1) {
             return total;
         }
-        return setter.shifts[village] + MOST_FIX_SHIFT;
+        return setter.bestShifts[village] + MOST_FIX_SHIFT;
     }
 
     public long free(int g, int what) {
         if (!within(g, 1, WIDEST_GAP) || !within(what, 0, 2)) {
             return BAD;
         }
-        long minutes = freeMinutes(g);
+        long minutes = now.freeMinutes(g);
         if (what == 0) {
             return minutes;
         }
@@ -360,16 +362,6 @@ public final class NineNoons {
         for (int i = 0; i < n; i++) {
             trial.passDay();
         }
-    }
-
-    private long freeMinutes(int g) {
-        long minutes = 0;
-        for (int minute = 0; minute < HOUR; minute++) {
-            if (now.isFree(minute, g)) {
-                minutes |= 1L << minute;
-            }
-        }
-        return minutes;
     }
 
     private int togetherWithoutDriftOf(int village) {
@@ -538,6 +530,13 @@ public final class NineNoons {
         return minutes <= WIDEST_GAP ? minutes : HOUR - minutes;
     }
 
+    /** The minutes, as a set, of which the gap to a minute is less than g (1 .. 30). */
+    private static long minutesNear(int minute, int g) {
+        long run = (1L << (2 * g - 1)) - 1;
+        int first = roundTheHour(minute - g + 1);
+        return (run << first | run >>> (HOUR - first)) & ALL_MINUTES;
+    }
+
     private static int greatestDivisor(int number, int other) {
         int a = number;
         int b = other;
@@ -635,13 +634,13 @@ public final class NineNoons {
             return sum;
         }
 
-        boolean isFree(int minute, int g) {
+        /** The minutes, as a set, that are not near to any village's. */
+        long freeMinutes(int g) {
+            long free = ALL_MINUTES;
             for (int village = 0; village < villages; village++) {
-                if (shorterWay(minute, minutes[village]) < g) {
-                    return false;
-                }
+                free &= ~minutesNear(minutes[village], g);
             }
-            return true;
+            return free;
         }
 
         /** Whether none ring together, if the villages of a set ring 1 minute later. */
@@ -769,55 +768,41 @@ public final class NineNoons {
         }
     }
 
-    /** Finds the least setting by which none are near: by totals from 0 on, so the first found is the least. */
+    /** Finds the least setting by which none are near: tries ways from the first on, and keeps one only if it is less. */
     private static final class Setter {
+        static final int NO_TOTAL = MOST_FIX_SHIFT * MOST_VILLAGES + 1;
+
         final int[] shifts = new int[MOST_VILLAGES];
+        final int[] bestShifts = new int[MOST_VILLAGES];
+        int bestTotal = NO_TOTAL;
 
         int leastTotal(Valley valley, int g) {
-            int most = MOST_FIX_SHIFT * valley.villages;
-            for (int total = 0; total <= most; total++) {
-                if (settle(valley, g, 0, total)) {
-                    return total;
-                }
-            }
-            return NONE;
+            bestTotal = NO_TOTAL;
+            settleRest(valley, g, 0, ALL_MINUTES, 0);
+            return bestTotal == NO_TOTAL ? NONE : bestTotal;
         }
 
-        /** Sets a village and all behind it, by just so many minutes as are left. */
-        private boolean settle(Valley valley, int g, int village, int left) {
+        /** Sets a village and all behind it at minutes that are free; those ahead of it are set, by a total. */
+        private void settleRest(Valley valley, int g, int village, long free, int total) {
             if (village >= valley.villages) {
-                return left == 0;
+                bestTotal = total;
+                System.arraycopy(shifts, 0, bestShifts, 0, MOST_VILLAGES);
+                return;
             }
             for (int shift = -MOST_FIX_SHIFT; shift <= MOST_FIX_SHIFT; shift++) {
-                if (settleBy(valley, g, village, shift, left)) {
-                    return true;
+                int totalThen = total + Math.abs(shift);
+                if (totalThen < bestTotal) {
+                    settleBy(valley, g, village, shift, free, totalThen);
                 }
             }
-            return false;
         }
 
-        private boolean settleBy(Valley valley, int g, int village, int shift, int left) {
-            int leftBehind = left - Math.abs(shift);
-            int mostBehind = MOST_FIX_SHIFT * (valley.villages - village - 1);
-            if (leftBehind < 0 || leftBehind > mostBehind) {
-                return false;
+        private void settleBy(Valley valley, int g, int village, int shift, long free, int totalThen) {
+            int minute = roundTheHour(valley.minutes[village] + shift);
+            if ((free >> minute & 1) != 0) {
+                shifts[village] = shift;
+                settleRest(valley, g, village + 1, free & ~minutesNear(minute, g), totalThen);
             }
-            shifts[village] = shift;
-            return isClearOfEarlier(valley, g, village) && settle(valley, g, village + 1, leftBehind);
-        }
-
-        private boolean isClearOfEarlier(Valley valley, int g, int village) {
-            int minute = minuteThen(valley, village);
-            for (int other = 0; other < village; other++) {
-                if (shorterWay(minute, minuteThen(valley, other)) < g) {
-                    return false;
-                }
-            }
-            return true;
-        }
-
-        private int minuteThen(Valley valley, int village) {
-            return roundTheHour(valley.minutes[village] + shifts[village]);
         }
     }
 

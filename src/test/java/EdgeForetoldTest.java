@@ -23,6 +23,7 @@ public final class EdgeForetoldTest {
         fixTheFirst();
         fixNone();
         fixOfNotTwo();
+        fixWhateverWasAskedAhead();
         freeTakes();
         freeMinutes();
         freeNone();
@@ -247,6 +248,20 @@ public final class EdgeForetoldTest {
         for (int g : new int[] {1, 12}) {
             due.is("19: of no VILLAGE", new NineNoons().fix(g, -1), 0);
             fixed("of one VILLAGE", "p59+9", g, 0);
+        }
+    }
+
+    private static void fixWhateverWasAskedAhead() {
+        NineNoons x = Due.of("p10+0,p11+0");
+        for (int round = 0; round < 2; round++) {
+            due.is("19: whatever was asked ahead: apart now", x.fix(1, -1), 0);
+            due.is("19: whatever was asked ahead: by all there is", x.fix(5, -1), 4);
+            due.is("19: whatever was asked ahead: 1 later", x.fix(5, 1), 4);
+            due.is("19: whatever was asked ahead: none", x.fix(6, 1), NONE);
+            due.is("19: whatever was asked ahead: none", x.fix(6, -1), NONE);
+            due.is("19: whatever was asked ahead: by 1", x.fix(2, -1), 1);
+            due.is("19: whatever was asked ahead: 0 earlier", x.fix(2, 0), 1);
+            due.is("19: whatever was asked ahead: 1 by none", x.fix(2, 1), 2);
         }
     }
 
